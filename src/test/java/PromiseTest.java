@@ -405,6 +405,37 @@ public final class PromiseTest {
         due("16 stays", x.told(11), 7);
     }
 
+    /** As many ports, ships and goods as there may be, so that nothing is left out or reached beyond. */
+    private static void allThereMayBe() {
+        StarTrade x = withPorts(6);
+        for (int i = 0; i < 18; i++) {
+            x.set(i / 3, i % 3, 0, 20);
+            x.set(i / 3, i % 3, 1, 2);
+        }
+        for (int s = 0; s < 4; s++) {
+            x.ship(5, 9, 100);
+            due("17 bought", x.buy(s, s % 3, 2), 2);
+        }
+        due("17 units of all", x.told(4), 360);
+        due("17 event kept", x.event(9, 5, 2, 1), 1);
+        due("17 now", x.tick(3), 3);
+        due("17 units of all", x.told(4), 360 + 3 * 36);
+        due("17 event kept", x.told(3), 1);
+        x.way(4, 5, 1);
+        due("19 the last ports, empty", x.plan(3, 1), x.ofShip(3, 2) - 1);
+        due("20 the last ports, empty", x.planned(0, 0), 4);
+        due("20 the last ports, empty", x.planned(0, 1), 3);
+        due("18 the last ports", x.ring(1, 11), 5);
+        x.set(0, 0, 2, 50);
+        x.set(0, 1, 2, 40);
+        x.set(0, 2, 2, 30);
+        x.tick(1);
+        due("8 hunger of all goods", x.ofPort(0, 4), (50 - 28) + (40 - 28) + (30 - 28));
+        StarTrade y = withPorts(1);
+        y.tick(1);
+        due("17 no events to come", y.told(3), 0);
+    }
+
     private static void told() {
         StarTrade x = withPorts(2);
         x.set(0, 0, 0, 20);
@@ -539,6 +570,45 @@ public final class PromiseTest {
         y.set(0, 0, 0, 9);
         // 9/6 against 6/4 are one
         dueRing("18 equal quotients", y, 1, 9, 6, 2, 0, 1);
+        y.way(2, 3, 6);
+        y.set(2, 0, 0, 19);
+        // 9/6 against 19/12, and then against 17/12
+        dueRing("18 a little more", y, 1, 19, 12, 2, 2, 3);
+        y.set(2, 0, 0, 17);
+        dueRing("18 a little less", y, 1, 9, 6, 2, 0, 1);
+        y.way(0, 1, 4);
+        y.way(2, 3, 7);
+        y.set(0, 0, 0, 8);
+        y.set(2, 0, 0, 14);
+        dueRing("18 8/8 and 14/14 are one", y, 1, 8, 8, 2, 0, 1);
+        y.set(2, 0, 0, 15);
+        y.set(0, 0, 0, 9);
+        dueRing("18 9/8 against 15/14", y, 1, 9, 8, 2, 0, 1);
+        y.way(0, 1, 5);
+        y.set(0, 0, 0, 7);
+        y.set(2, 0, 0, 10);
+        // 7/10 against 10/14: 98 against 100
+        dueRing("18 by least of all", y, 1, 10, 14, 2, 2, 3);
+    }
+
+    private static void fewestPorts() {
+        StarTrade x = triangle();
+        x.fuel(0);
+        x.port();
+        x.port();
+        x.way(3, 4, 1);
+        x.set(3, 0, 0, 15);
+        x.set(4, 1, 0, 15);
+        // 0 2 1: 45 in 3; 3 4: 15 + 15 in 2
+        dueRing("18 of equals the fewest ports", x, 1, 30, 2, 2, 3, 4);
+        x.set(4, 1, 0, 14);
+        // 15 + 14 in 2
+        dueRing("18 the greatest whatever its ports", x, 1, 45, 3, 3, 0, 2, 1);
+        x.set(4, 1, 0, 15);
+        x.set(4, 0, 0, 1);
+        x.set(2, 0, 0, 2);
+        // 13 + 15 + 15 in 3 against 14 + 15 in 2: 86 against 87
+        dueRing("18 greater by the least", x, 1, 29, 2, 2, 3, 4);
     }
 
     private static void duePlan(String what, StarTrade x, int ship, int k, int... want) {
@@ -627,6 +697,9 @@ public final class PromiseTest {
         x.set(0, 0, 1, 12);
         // 20 - 2, and 2 more each tick: 20 and then 22 less nothing: 22 when it is back, so 1 1
         duePlan("19 ports go on making", x, 0, 3, 10 - 2 + 37 - 2 + 37 - 2 + 33, 1, 0, 0, 1, 1, 0);
+        x.set(1, 0, 1, 1);
+        // sold at 18 17; the 3 that lie there then are 5 two ticks on: sold at 14 13
+        duePlan("19 ticks behind a sale", x, 0, 3, 10 - 2 + 35 - 2 + 37 - 2 + 27, 1, 0, 0, 1, 1, 0);
     }
 
     private static void planOfAPoorShip() {
@@ -762,9 +835,11 @@ public final class PromiseTest {
         ofShip();
         fuel();
         told();
+        allThereMayBe();
         ring();
         ringOfThree();
         ringExactly();
+        fewestPorts();
         plan();
         planOfSeveral();
         planOfThree();
