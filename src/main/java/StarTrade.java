@@ -428,8 +428,11 @@ public final class StarTrade {
             ideal = 10;
         }
 
-        /** set() keeps ideal at 1 or more, so it may divide. */
         int priceAt(int stockThen) {
+            // set() keeps ideal at 1 or more; it is looked at here all the same, since it divides.
+            if (ideal < 1) {
+                return 1;
+            }
             int scarce = Math.max(0, 2 * ideal - stockThen);
             return Math.max(1, base * scarce / ideal);
         }
