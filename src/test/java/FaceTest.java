@@ -6,6 +6,8 @@ import java.nio.file.Files;
 import java.nio.file.Path;
 import java.util.Set;
 import java.util.TreeSet;
+import java.util.regex.Matcher;
+import java.util.regex.Pattern;
 
 /** The public face is the document's and no more, and the source keeps to what of LANGUAGE.md a look can tell. */
 public final class FaceTest {
@@ -56,8 +58,8 @@ public final class FaceTest {
                 DUE.dueTrue(f + " is a public constant", Modifier.isPublic(f.getModifiers())
                     && Modifier.isStatic(f.getModifiers()) && Modifier.isFinal(f.getModifiers()) && f.getType() == int.class);
             }
-            DUE.dueTrue(f + " is final if static", !Modifier.isStatic(f.getModifiers()) || Modifier.isFinal(f.getModifiers()));
         }
+        fieldsOf(StarTrade.class);
         DUE.dueTrue("constants " + seen, seen.equals(CONSTANTS));
     }
 
@@ -72,6 +74,7 @@ public final class FaceTest {
         for (Class<?> c : inside) {
             int m = c.getModifiers();
             DUE.dueTrue(c + " is static and not public", Modifier.isStatic(m) && !Modifier.isPublic(m) && !Modifier.isProtected(m));
+            fieldsOf(c);
         }
     }
 
@@ -83,6 +86,38 @@ public final class FaceTest {
             DUE.dueTrue("without " + word, !code.matches("(?s).*\\b" + word + "\\b.*"));
         }
         DUE.dueTrue("without -> and ::", !code.contains("->") && !code.contains("::"));
+        Matcher library = Pattern.compile("\\b(Math|System|Arrays|Integer|Long|java)\\b[^;(]*").matcher(code);
+        while (library.find()) {
+            DUE.dueTrue("of the library: " + library.group(),
+                Set.of("Math.max", "Math.min", "System.arraycopy").contains(library.group()));
+        }
+        lengths(text);
+    }
+
+    /** A method's lines, from the one that opens it to the brace that closes it at the same depth. */
+    private static void lengths(String text) {
+        String[] lines = text.split("\n");
+        for (int i = 0; i < lines.length; i++) {
+            if (!lines[i].matches("( {4}| {8})[\\w\\[\\] ]+\\(.*\\) \\{")) {
+                continue;
+            }
+            String close = lines[i].replaceAll("\\S.*", "") + "}";
+            int end = i;
+            while (end < lines.length && !lines[end].equals(close)) {
+                end++;
+            }
+            DUE.dueTrue("some sixty lines at most: " + lines[i], end - i < 60);
+        }
+    }
+
+    private static void fieldsOf(Class<?> type) {
+        int own = 0;
+        for (Field f : type.getDeclaredFields()) {
+            boolean fixed = Modifier.isStatic(f.getModifiers());
+            own += fixed ? 0 : 1;
+            DUE.dueTrue(f + " is final if static", !fixed || Modifier.isFinal(f.getModifiers()));
+        }
+        DUE.dueTrue(type + " has some twenty fields at most", own <= 20);
     }
 
     public static void main(String[] args) throws Exception {

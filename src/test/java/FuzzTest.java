@@ -60,7 +60,7 @@ public final class FuzzTest {
             int n = from(1, below(10) == 0 ? 200 : 4);
             due("tick " + n, x.tick(n), y.tick(n));
         } else {
-            int t = below(20) == 0 ? from(now, 998) : now + below(30);
+            int t = below(20) == 0 ? from(Math.min(now, 998), 998) : now + below(30);
             int by = from(-1000, 1000) / (below(2) == 0 ? 1 : 20);
             due("event " + t + " " + p + " " + g + " " + by, x.event(t, p, g, by), y.event(t, p, g, by));
         }
@@ -100,7 +100,8 @@ public final class FuzzTest {
             due("ring " + h + " " + what, x.ring(h, what), y.ring(h, what));
         } else if (kind == 1) {
             int s = someShip();
-            int k = below(12) == 0 ? from(1, 3) : from(1, 2);
+            // PlainTrade copies a world for each trip, so three trips are dear where there are many ports.
+            int k = ports <= 3 || below(12) == 0 ? from(1, 3) : from(1, 2);
             due("plan " + s + " " + k, x.plan(s, k), y.plan(s, k));
             for (int i = -1; i < 4; i++) {
                 for (int what = -1; what < 3; what++) {
@@ -139,8 +140,11 @@ public final class FuzzTest {
         }
     }
 
-    /** Units and ways at the start, so that the calls that follow find something to do. */
-    private void furnish() {
+    /**
+     * Units and ways at the start, so that the calls that follow find something to do; some worlds are rich, so that
+     * ships come to the most coins, and some are late, so that trips come to the last tick.
+     */
+    private void furnish(boolean rich, boolean late) {
         int some = 2 + below(5);
         for (int i = 0; i < some; i++) {
             due("port", x.port(), y.port());
@@ -152,10 +156,15 @@ public final class FuzzTest {
         }
         for (int i = 0; i < 2; i++) {
             int p = below(some);
-            due("ship", x.ship(p, 1 + below(20), below(400)), 0 + i);
-            y.ship(p, x.ofShip(i, 1), x.ofShip(i, 2));
+            int hold = 1 + below(20);
+            int coins = rich ? 1000000 - below(200) : below(400);
+            due("ship", x.ship(p, hold, coins), y.ship(p, hold, coins));
         }
         ships = 2;
+        for (int end = late ? 960 + below(40) : 0; now < end; now = y.told(2)) {
+            int n = Math.min(200, end - now);
+            due("tick " + n, x.tick(n), y.tick(n));
+        }
     }
 
     private void one(int number) {
@@ -167,7 +176,7 @@ public final class FuzzTest {
         ships = 0;
         now = 0;
         if (number % 8 != 0) {
-            furnish();
+            furnish(number % 5 == 1, number % 5 >= 3);
         }
         for (int i = 0; i < 250; i++) {
             int kind = below(24);
